@@ -251,8 +251,8 @@ public final class SourceDispute {
         if (!isContest(place, law)) {
             return NONE;
         }
-        river.weigh(law);
-        return river.claims[river.greatestClaim(NONE)] - river.claims[place];
+        int first = river.winnerBy(law);
+        return first < 0 ? NONE : river.claims[first] - river.claims[place];
     }
 
     public int margin(int law) {
@@ -346,7 +346,7 @@ public final class SourceDispute {
     private boolean winsTurned(int source, int law, int turned, int into) {
         tried.copy(now);
         tried.into[turned] = into;
-        river.look(told, tried, 0);
+        river.look(told, tried);
         return river.winnerBy(law) == source;
     }
 
@@ -444,19 +444,24 @@ public final class SourceDispute {
 
     // ---- months that would be
 
+    /** Looks at a copy of what is now, without a storm. */
+    private void tryFromNow() {
+        tried.copy(now);
+        river.look(told, tried);
+    }
+
     public int agree(int n) {
         if (!isWithin(n, 1, MOST_AHEAD)) {
             return NONE;
         }
         int agreed = 0;
-        tried.copy(now);
+        tryFromNow();
         for (int i = 0; i < n; i++) {
-            river.look(told, tried, 0);
             int first = river.winnerBy(0);
             if (first > 0 && first == river.winnerBy(1) && first == river.winnerBy(2)) {
                 agreed++;
             }
-            river.endMonth();
+            river.goOn();
         }
         return agreed;
     }
@@ -467,14 +472,13 @@ public final class SourceDispute {
         }
         int least = Integer.MAX_VALUE;
         int which = 0;
-        tried.copy(now);
+        tryFromNow();
         for (int i = 0; i < n; i++) {
-            river.look(told, tried, 0);
             if (mouthFlow() < least) {
                 least = mouthFlow();
                 which = i;
             }
-            river.endMonth();
+            river.goOn();
         }
         return what == 0 ? which : least;
     }
@@ -484,14 +488,13 @@ public final class SourceDispute {
             return NONE;
         }
         Arrays.fill(tally, 0);
-        tried.copy(now);
+        tryFromNow();
         for (int i = 0; i < n; i++) {
-            river.look(told, tried, 0);
             int winner = river.winnerBy(law);
             if (winner > 0) {
                 tally[winner]++;
             }
-            river.endMonth();
+            river.goOn();
         }
         return what == 0 ? tallied() : mostTallied();
     }
@@ -521,10 +524,10 @@ public final class SourceDispute {
         if (!shape.isSource(place)) {
             return NONE;
         }
-        tried.copy(now);
+        tryFromNow();
         for (int i = 1; i <= MOST_MONTHS; i++) {
-            river.look(told, tried, 0);
-            if (river.endMonth() == place) {
+            river.goOn();
+            if (tried.won[place] > now.won[place]) {
                 return i;
             }
         }
@@ -547,7 +550,7 @@ public final class SourceDispute {
         }
         tried.copy(now);
         river.goThrough(told, tried, n, told.seed);
-        river.look(told, tried, 0);
+        river.look(told, tried);
         return mouthFlow();
     }
 
@@ -589,7 +592,7 @@ public final class SourceDispute {
             return NONE;
         }
         look();
-        return shape.order[place];
+        return shape.orderOf(now, place);
     }
 
     public int basin(int place, int what) {
@@ -677,7 +680,7 @@ public final class SourceDispute {
     // ---- what the calls have in common
 
     private void look() {
-        river.look(told, now, 0);
+        river.look(told, now);
     }
 
     private boolean hasMouth() {
@@ -1018,7 +1021,6 @@ public final class SourceDispute {
                 }
             }
             countAbove(course);
-            rankOrders(course);
         }
 
         private void countAbove(Course course) {
@@ -1029,7 +1031,7 @@ public final class SourceDispute {
             }
         }
 
-        private void rankOrders(Course course) {
+        int orderOf(Course course, int place) {
             for (int i = places - 1; i >= 0; i--) {
                 int greatest = 0;
                 int many = 0;
@@ -1041,6 +1043,7 @@ public final class SourceDispute {
                 }
                 order[line[i]] = many == 1 ? greatest : greatest + 1;
             }
+            return order[place];
         }
 
         boolean isSource(int place) {
@@ -1128,13 +1131,22 @@ public final class SourceDispute {
         private Told told = null;
         private Course course = null;
 
-        /** Takes the course as it is, with so much more rain everywhere. */
-        void look(Told text, Course seen, int more) {
+        /** Takes the course as it is, without a storm. */
+        void look(Told text, Course seen) {
+            form(text, seen);
+            fall(0);
+        }
+
+        private void form(Told text, Course seen) {
             told = text;
             course = seen;
             shape.form(text, seen);
+        }
+
+        /** What comes down and flows in this month, with so much more rain everywhere. */
+        private void fall(int more) {
             rainDown(more);
-            run(seen.dams);
+            run(course.dams);
         }
 
         private void rainDown(int more) {
@@ -1219,20 +1231,26 @@ public final class SourceDispute {
             return sum;
         }
 
-        /** The month that was looked at goes by: who won it. */
-        int endMonth() {
+        /** The month whose rain has fallen goes by. */
+        private void endMonth() {
             int winner = winnerBy(course.rules);
             if (winner > MOUTH) {
                 course.pay(winner, told.prize);
             }
             course.month++;
-            return winner;
+        }
+
+        /** The month that is looked at goes by, and the next one is looked at, without storms. */
+        void goOn() {
+            endMonth();
+            fall(0);
         }
 
         /** So many months go by, with the storms of a seed. */
         void goThrough(Told text, Course gone, int months, int seed) {
+            form(text, gone);
             for (int i = 0; i < months; i++) {
-                look(text, gone, text.isStorm(seed, gone.month) ? text.stormRain : 0);
+                fall(text.isStorm(seed, gone.month) ? text.stormRain : 0);
                 endMonth();
             }
         }

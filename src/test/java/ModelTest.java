@@ -462,7 +462,8 @@ public final class ModelTest {
         int when = source ? -2 : -1;
         Model.State s = m.now.copy();
         for (int i = 1; i <= 60 && when == -2; i++) {
-            when = m.passMonth(s, 0) == p ? i : when;
+            m.passMonth(s, 0);
+            when = s.won[p] > m.now.won[p] ? i : when;
         }
         due("when " + p, x.when(p), when);
         int n = upTo(2) == 0 ? a(60) : a(8);

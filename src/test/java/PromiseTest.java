@@ -723,6 +723,14 @@ public final class PromiseTest {
         CHECK.due("the sixtieth month is the first's", x.when(2), -2);
         x.months(1);
         CHECK.due("one is too many yet", x.when(2), 60);
+        x = Check.with(FORK);
+        for (int i = 0; i < 16; i++) {
+            x.months(60);
+        }
+        x.months(38);
+        CHECK.due("the last time that is counted", x.when(1), 1);
+        x.months(1);
+        CHECK.due("999 at most", x.when(1), -2);
     }
 
     private static void thens() {
