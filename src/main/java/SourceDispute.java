@@ -701,7 +701,7 @@ public final class SourceDispute {
 
     /** Looks at the river as it is now, and tells whether the place is a source and there is such a law. */
     private boolean isContest(int place, int law) {
-        look();
+        river.look(told, now);
         return isLaw(law) && shape.isSource(place);
     }
 
@@ -904,7 +904,7 @@ public final class SourceDispute {
                         break;
                     default:
                         top--;
-                        at = left < right ? at : Math.max(at, value);
+                        at = left >= right && value > at ? value : at;
                 }
             }
             return 0;
@@ -1423,10 +1423,6 @@ public final class SourceDispute {
             }
         }
 
-        int placeAt(int i) {
-            return i >= 0 && i < size ? places[i] : NONE;
-        }
-
         private static int pastBlanks(byte[] text, int length, int from) {
             int at = from;
             while (at < length && (text[at] == 32 || text[at] == 9 || text[at] == 10 || text[at] == 13)) {
@@ -1456,10 +1452,11 @@ public final class SourceDispute {
 
         private final Tokens tokens = new Tokens();
         private Told told = null;
-        /** The token at hand: which one, its kind (none behind a fault), its value. */
+        /** The token at hand: which one, its kind (none behind a fault), its value, its byte. */
         private int next = 0;
         private int kind = Tokens.NO_TOKEN;
         private long value = 0;
+        private int atByte = NONE;
         private boolean mouthTold = false;
         private int placesTold = 0;
         private int fault = 0;
@@ -1657,12 +1654,13 @@ public final class SourceDispute {
             next = token;
             kind = there ? tokens.kinds[token] : Tokens.NO_TOKEN;
             value = there ? tokens.values[token] : 0;
+            atByte = there ? tokens.places[token] : NONE;
         }
 
         private void fail(int number) {
             if (fault == 0) {
                 fault = number;
-                faultPlace = tokens.placeAt(next);
+                faultPlace = atByte;
                 kind = Tokens.NO_TOKEN;
             }
         }
@@ -1670,7 +1668,7 @@ public final class SourceDispute {
         private void failLate(int number) {
             if (lateFault == 0) {
                 lateFault = number;
-                latePlace = tokens.placeAt(next);
+                latePlace = atByte;
             }
         }
     }
