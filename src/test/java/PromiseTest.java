@@ -43,6 +43,9 @@ public final class PromiseTest {
         watches();
         heldAndRestored();
         counts();
+        smallRivers();
+        leastNumbers();
+        untold();
         CHECK.finish();
     }
 
@@ -914,5 +917,79 @@ public final class PromiseTest {
         CHECK.due("no such what", x.count(-1), NONE);
         CHECK.due("no such what", x.count(MIN), NONE);
         CHECK.due("no such what", x.count(MAX), NONE);
+    }
+
+    /** The mouth alone, and one source alone. */
+    private static void smallRivers() {
+        SourceDispute x = title(7, "mouth m;");
+        CHECK.due("the mouth is no source", x.claim(0, 0), NONE);
+        CHECK.due("nor behind", x.behind(0, 0), NONE);
+        CHECK.due("nor ranked", x.rank(0, 0), NONE);
+        CHECK.due("nor when", x.when(0), NONE);
+        CHECK.due("nor then", x.then(0, 1, 0), NONE);
+        CHECK.due("nor year", x.year(0, 1, 1), NONE);
+        CHECK.due("nor turn", x.turnFor(0, 0), NONE);
+        CHECK.due("nor dam", x.damFor(0, 0), NONE);
+        CHECK.due("nor spot", x.spot(0, 8), 0);
+        CHECK.due("dams", x.dams(0, -1), 0);
+        CHECK.due("main", x.main(0), 0);
+        CHECK.due("driest", x.driest(1, 1), 0);
+        CHECK.due("flowIn", x.flowIn(1), 0);
+        CHECK.due("months", x.months(2), 2);
+        CHECK.due("money", x.count(7), 0);
+        x = Check.with("mouth m; rains = 6;");
+        CHECK.due("rain at the mouth", x.basin(0, 1), 6);
+        CHECK.due("not to be dammed", x.dams(5, -1), -2);
+        CHECK.due("not to be dammed", x.dams(6, -1), 0);
+        x = Check.with("mouth m; place a m 4 5 6;");
+        CHECK.due("agree", x.agree(2), 2);
+        CHECK.due("who", x.reign(0, 1, 1), 1);
+        CHECK.due("how many", x.reign(0, 1, 0), 1);
+        CHECK.due("year", x.year(1, 1, 1), 1);
+        CHECK.due("dyed", x.dyed(0, 1), 2);
+        x.months(1);
+        CHECK.due("richest", x.richest(0), 1);
+        CHECK.due("turn", x.turnFor(1, 0), -2);
+        CHECK.due("dam", x.damFor(1, 0), 1);
+    }
+
+    private static void leastNumbers() {
+        SourceDispute x = title(23, FORK + "one = if month < 1 then which else 9 - which;");
+        CHECK.due("one month", x.driest(1, 0), 0);
+        CHECK.due("one month", x.reign(0, 1, 0), 1);
+        CHECK.due("just so many months", x.reign(0, 2, 0), 2);
+        CHECK.due("just so many months", x.reign(0, 2, 1), 1);
+        x = title(14, FORK + "one = rain; two = 0 - rain;");
+        CHECK.due("two of three", x.agree(3), 0);
+        x = Check.with(FORK + "one = 0; three = rain;");
+        CHECK.due("two others of three", x.agree(3), 0);
+        x = title(43, FORK);
+        CHECK.due("hold", x.hold(0), true);
+        x.months(1);
+        CHECK.due("restore", x.restore(0), true);
+        CHECK.due("month", x.count(1), 0);
+        x = title(37, FORK);
+        CHECK.due("one seed", x.year(1, 1, 1), 1);
+        CHECK.due("one seed", x.year(2, 1, 1), 0);
+    }
+
+    /** No storm, a prize of 1 and the seed 0, if a text does not tell them. */
+    private static void untold() {
+        SourceDispute x = title(4, "storm 30 9; seed 77; prize 5;");
+        x = Check.with(FORK);
+        SourceDispute zero = Check.with("seed 0; storm 50 5;");
+        SourceDispute none = Check.with("storm 50 5;");
+        for (int i = 0; i < 200; i++) {
+            CHECK.due("no storm", x.count(12), 0);
+            CHECK.due("seed 0", none.count(12), zero.count(12));
+            x.months(1);
+            zero.months(1);
+            none.months(1);
+        }
+        CHECK.due("prize 1", x.count(7), 200);
+        x = Check.with(FORK + "two = if flow < 11 then which else 0; one = flow; storm 0 50;");
+        CHECK.due("no storm, no more rain", x.then(2, 3, 0), 3);
+        x = Check.with(FORK + "one = if flow < 11 then 9 else flow / 4;");
+        CHECK.due("nothing more", x.then(1, 3, 0), 3);
     }
 }
