@@ -57,6 +57,42 @@ final class Check {
         return x.read();
     }
 
+    /** What is there, in words: two of these are alike if nothing has happened in between (some hundred calls). */
+    static String print(SourceDispute x) {
+        StringBuilder print = new StringBuilder();
+        for (int what = 0; what <= 16; what++) {
+            print.append(what).append('=').append(x.count(what)).append(' ');
+        }
+        for (int p = 0; p < x.count(0); p++) {
+            for (int what : new int[] {0, 1, 2, 3, 9, 10, 11, 12}) {
+                print.append(x.spot(p, what)).append(' ');
+            }
+        }
+        for (int law = 0; law < 3; law++) {
+            print.append(x.winner(law)).append(' ').append(x.margin(law)).append(' ');
+        }
+        return print.append(x.dyed(x.count(10), 1)).append(' ').append(x.place()).toString();
+    }
+
+    /** LOT 100 of a seed for a month, written out. */
+    static int lot(int seed, int month) {
+        int h = (seed ^ 147) * 1103515245 + 12345;
+        h = h ^ h >>> 15;
+        h = (h ^ 4 * month) * 1103515245 + 12345;
+        h = h ^ h >>> 15;
+        return (h >>> 1) % 100;
+    }
+
+    /** Whether nothing has happened since such a print was made. */
+    void same(String call, SourceDispute x, String before) {
+        asked++;
+        String now = print(x);
+        if (!now.equals(before)) {
+            wrong++;
+            System.out.println(title + ": " + call + " changed\n  " + before + " into\n  " + now);
+        }
+    }
+
     /** A new object that has read a text without a fault. */
     static SourceDispute with(String text) {
         SourceDispute x = new SourceDispute();

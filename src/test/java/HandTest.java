@@ -23,6 +23,9 @@ public final class HandTest {
             HandTest dry = new HandTest(seed, "");
             dry.shake();
             dry.alike();
+            HandTest dammed = new HandTest(seed, "");
+            dammed.shake();
+            dammed.dams();
             HandTest wet = new HandTest(seed, "storm 40 33;");
             wet.shake();
             wet.stormy();
@@ -45,7 +48,6 @@ public final class HandTest {
 
     /** Without storms months ahead are as months gone through. */
     private void alike() {
-        dams();
         int law = random.nextInt(3);
         int source = 1 + random.nextInt(9);
         int n = 1 + random.nextInt(12);

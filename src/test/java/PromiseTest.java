@@ -347,11 +347,7 @@ public final class PromiseTest {
             for (int chance : new int[] {1, 35, 99}) {
                 SourceDispute x = Check.with("storm " + chance + " 9; seed " + seed + ";");
                 for (int month = 0; month < 30; month++) {
-                    int h = (seed ^ 147) * 1103515245 + 12345;
-                    h = h ^ h >>> 15;
-                    h = (h ^ 4 * month) * 1103515245 + 12345;
-                    h = h ^ h >>> 15;
-                    CHECK.due("storm " + seed + " " + month, x.count(12), (h >>> 1) % 100 < chance ? 1 : 0);
+                    CHECK.due("storm " + seed + " " + month, x.count(12), Check.lot(seed, month) < chance ? 1 : 0);
                     x.months(1);
                 }
             }

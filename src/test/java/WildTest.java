@@ -21,7 +21,7 @@ public final class WildTest {
     }
 
     public static void main(String[] args) {
-        for (int seed = 0; seed < 300; seed++) {
+        for (int seed = 0; seed < 2500; seed++) {
             CHECK.title("run " + seed);
             new WildTest(seed).run();
         }
@@ -32,18 +32,21 @@ public final class WildTest {
         return random.nextInt(3) == 0 ? ODD[random.nextInt(ODD.length)] : random.nextInt(14) - 1;
     }
 
+    /** Some 500 calls: things are done, then what is there is looked at ahead of questions and behind them. */
     private void run() {
-        for (int i = 0; i < 512; i++) {
-            if (i % 170 == 0 && random.nextInt(4) != 0) {
+        for (int round = 0; round < 8; round++) {
+            if (round % 3 == 0 && random.nextInt(4) != 0) {
                 x.back(x.count(8));
                 Check.read(x, TEXTS[random.nextInt(TEXTS.length)]);
-            } else if (random.nextInt(3) == 0) {
-                act(random.nextInt(13));
-            } else {
-                long before = print();
-                ask(random.nextInt(31));
-                CHECK.due("what is there behind a question", print(), before);
             }
+            for (int i = 0; i < 9; i++) {
+                act(random.nextInt(13));
+            }
+            long before = print();
+            for (int i = 0; i < 9; i++) {
+                ask(random.nextInt(31));
+            }
+            CHECK.due("what is there behind nine questions", print(), before);
         }
     }
 
