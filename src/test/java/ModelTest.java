@@ -16,7 +16,7 @@ public final class ModelTest {
     }
 
     public static void main(String[] args) {
-        int runs = args.length > 0 ? Integer.parseInt(args[0]) : 250;
+        int runs = args.length > 0 ? Integer.parseInt(args[0]) : 400;
         for (int seed = 0; seed < runs && CHECK.wrongs() == 0; seed++) {
             CHECK.title("run " + seed);
             new ModelTest(seed).run();
@@ -160,7 +160,7 @@ public final class ModelTest {
     private void run() {
         read(text());
         int asked = 0;
-        while (calls < 500 && CHECK.wrongs() == 0) {
+        while (calls < 360 && CHECK.wrongs() == 0) {
             calls++;
             act();
             if (asked < 60) {
