@@ -372,29 +372,31 @@ public final class SourceDispute {
             return NONE;
         }
         look();
-        int found = NONE;
-        for (int many = 0; many <= MOST_DAMS && found == NONE; many++) {
-            found = damsThatLeave(v, many, 1, 0);
-        }
+        int found = fewestDams(v);
         if (found == NONE) {
             return NOBODY;
         }
         return i == NONE ? Integer.bitCount(found) : bitAt(found, i);
     }
 
-    /** The first dams, so many from a place on, that with those taken leave the mouth v or less: bits. */
-    private int damsThatLeave(int v, int many, int from, int taken) {
-        if (many <= 0) {
-            river.run(now.dams | taken);
-            return mouthFlow() <= v ? taken : NONE;
-        }
-        int found = NONE;
-        for (int p = from; p < told.places && found == NONE; p++) {
-            if (!has(now.dams, p)) {
-                found = damsThatLeave(v, many - 1, p + 1, taken | bit(p));
+    /** The first of the fewest dams that leave the mouth v or less: bits; NONE if three do not. */
+    private int fewestDams(int v) {
+        int free = (bit(told.places) - 1) & ~(now.dams | bit(MOUTH));
+        int best = NONE;
+        for (int set = 0; set <= free; set++) {
+            if ((set & ~free) == 0 && Integer.bitCount(set) <= MOST_DAMS && isAhead(set, best)) {
+                river.run(now.dams | set);
+                best = mouthFlow() <= v ? set : best;
             }
         }
-        return found;
+        return best;
+    }
+
+    /** Whether a set is looked for ahead of another one: fewer places, or as many and a lower number first. */
+    private static boolean isAhead(int set, int other) {
+        int fewer = Integer.bitCount(other) - Integer.bitCount(set);
+        int firstUnlike = (set ^ other) & -(set ^ other);
+        return other == NONE || fewer > 0 || fewer == 0 && (set & firstUnlike) != 0;
     }
 
     public int loss(int place) {
@@ -470,15 +472,15 @@ public final class SourceDispute {
         if (!hasMouth() || !isWithin(n, 1, MOST_AHEAD) || !isWithin(what, 0, 1)) {
             return NONE;
         }
-        int least = Integer.MAX_VALUE;
         int which = 0;
         tryFromNow();
-        for (int i = 0; i < n; i++) {
+        int least = mouthFlow();
+        for (int i = 1; i < n; i++) {
+            river.goOn();
             if (mouthFlow() < least) {
                 least = mouthFlow();
                 which = i;
             }
-            river.goOn();
         }
         return what == 0 ? which : least;
     }

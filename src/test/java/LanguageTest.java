@@ -37,7 +37,8 @@ public final class LanguageTest {
         CHECK.title("words");
         for (String word : new String[] {"throw", "throws", "try", "catch", "synchronized", "assert", "package",
             "protected", "System\\.(?!arraycopy)", "Random", "Thread", "::", "->", "Exact", "instanceof",
-            "TEXT *\\+", "\\+ *TEXT", "hashCode", "toString", "float", "double"}) {
+            "TEXT *\\+", "\\+ *TEXT", "hashCode", "toString", "float", "double",
+            "Integer\\.(?!bitCount\\()", "Math\\.(?!(max|min)\\()", "Arrays\\.(?!fill\\()"}) {
             String pattern = Character.isLetter(word.charAt(0)) && word.matches("\\w+") ? "\\b" + word + "\\b" : word;
             CHECK.due("uses of " + word, many(pattern, code), 0);
         }
